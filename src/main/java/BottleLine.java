@@ -645,12 +645,14 @@ public final class BottleLine {
     }
 
     private static long commonDivisor(long a, long b) {
-        while (b != 0) {
-            long rest = a % b;
-            a = b;
-            b = rest;
+        long divisor = a;
+        long rest = b;
+        for (int turns = 0; turns < 100 && rest != 0; turns++) {
+            long next = divisor % rest;
+            divisor = rest;
+            rest = next;
         }
-        return a;
+        return divisor;
     }
 
     private static int thrownForShort(long[] row, int many, int n, int least, int most) {
@@ -875,20 +877,31 @@ public final class BottleLine {
             for (int m = 0; m < machines; m++) {
                 spent[m * STATES + how[m]]++;
                 if (how[m] == STARVED) {
-                    blamed[m * MACHINES + culprit(m, -1)]++;
+                    blamed[m * MACHINES + starverOf(m)]++;
                 } else if (how[m] == BLOCKED) {
-                    blamed[m * MACHINES + culprit(m, 1)]++;
+                    blamed[m * MACHINES + blockerOf(m)]++;
                 }
             }
         }
 
-        /** The first one never starves and the last one is never blocked, so there always is a culprit. */
-        private int culprit(int m, int towards) {
-            int other = m + towards;
-            while (other > 0 && other < machines - 1 && how[other] == how[m]) {
-                other += towards;
+        /** The first one never starves: if all between do, it is to blame. */
+        private int starverOf(int m) {
+            for (int other = m - 1; other > 0; other--) {
+                if (how[other] != STARVED) {
+                    return other;
+                }
             }
-            return other;
+            return 0;
+        }
+
+        /** The last one is never blocked: if all between are, it is to blame. */
+        private int blockerOf(int m) {
+            for (int other = m + 1; other < machines - 1; other++) {
+                if (how[other] != BLOCKED) {
+                    return other;
+                }
+            }
+            return machines - 1;
         }
     }
 
@@ -968,9 +981,9 @@ public final class BottleLine {
             from = next;
             if (next >= length) {
                 kind = END;
-            } else if (isLetter(text[next])) {
+            } else if (text[next] >= 'a' && text[next] <= 'z') {
                 readWord();
-            } else if (isDigit(text[next])) {
+            } else if (text[next] >= '0' && text[next] <= '9') {
                 readNumber();
             } else {
                 kind = text[next] == ';' ? SIGN : NOTHING;
@@ -978,18 +991,10 @@ public final class BottleLine {
             }
         }
 
-        private static boolean isLetter(byte sign) {
-            return sign >= 'a' && sign <= 'z';
-        }
-
-        private static boolean isDigit(byte sign) {
-            return sign >= '0' && sign <= '9';
-        }
-
         private void readWord() {
             kind = WORD;
             letters = 0;
-            while (next < length && isLetter(text[next])) {
+            while (next < length && text[next] >= 'a' && text[next] <= 'z') {
                 letters = letters << 5 | text[next] - 'a' + 1;
                 next++;
             }
@@ -997,7 +1002,7 @@ public final class BottleLine {
 
         private void readNumber() {
             number = 0;
-            while (next < length && isDigit(text[next])) {
+            while (next < length && text[next] >= '0' && text[next] <= '9') {
                 number = number * 10 + text[next] - '0';
                 next++;
             }
@@ -1124,7 +1129,13 @@ public final class BottleLine {
                 return false;
             }
             fresh.floor.speed[m] = tape.taken;
-            return takeOptions(m) && tape.takeSign();
+            // A third option is one told already, so three turns see every fault.
+            for (int options = 0; options < 3 && (tape.is("heads") || tape.is("stops")); options++) {
+                if (!(tape.is("heads") ? takeHeads(m) : takeStops(m))) {
+                    return false;
+                }
+            }
+            return tape.takeSign();
         }
 
         private void addMachine(int m, long name) {
@@ -1137,24 +1148,6 @@ public final class BottleLine {
             headsTold = false;
             stopsTold = false;
             tableTold = false;
-        }
-
-        /** A third option is one told already, so three turns see every fault. */
-        private boolean takeOptions(int m) {
-            for (int options = 0; options < 3; options++) {
-                if (tape.is("heads")) {
-                    if (!takeHeads(m)) {
-                        return false;
-                    }
-                } else if (tape.is("stops")) {
-                    if (!takeStops(m)) {
-                        return false;
-                    }
-                } else {
-                    return true;
-                }
-            }
-            return false;
         }
 
         private boolean takeHeads(int m) {
@@ -1559,7 +1552,7 @@ public final class BottleLine {
 
         /** Ways come with the fewer units ahead, so the first one that makes most is the one that stays. */
         private void shareFrom(int table, int left, int bottles, int minutes) {
-            if (table == tables - 1) {
+            if (table >= tables - 1) {
                 units[table] = left;
                 trySharing(bottles, minutes);
                 return;
@@ -1663,6 +1656,9 @@ public final class BottleLine {
 
     /** ORDER: the way from SORT to SORT with the least WASH. */
     private static final class Washing {
+        /** Above any sum of washes. */
+        private static final int UNFOUND = 1_000_000;
+
         private final int[] way = new int[SORTS];
         final int[] best = new int[SORTS];
         int length = 0;
@@ -1670,7 +1666,7 @@ public final class BottleLine {
 
         int findOrder(Plan plan, int set, int start) {
             length = Integer.bitCount(set);
-            least = Integer.MAX_VALUE;
+            least = UNFOUND;
             way[0] = start;
             goOnFrom(plan, 1, set & ~(1 << start), 0);
             return least;
