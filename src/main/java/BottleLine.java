@@ -702,7 +702,6 @@ public final class BottleLine {
         final Floor floor = new Floor();
         final long[] names = new long[MACHINES];
         final int[] headsOf = new int[MACHINES];
-        final long[] sortNames = new long[SORTS];
         final int[] washes = new int[SORTS * SORTS];
         int sorts = 0;
 
@@ -717,17 +716,17 @@ public final class BottleLine {
             floor.copy(other.floor);
             System.arraycopy(other.names, 0, names, 0, MACHINES);
             System.arraycopy(other.headsOf, 0, headsOf, 0, MACHINES);
-            System.arraycopy(other.sortNames, 0, sortNames, 0, SORTS);
             System.arraycopy(other.washes, 0, washes, 0, SORTS * SORTS);
             sorts = other.sorts;
         }
 
         int machineNamed(long name) {
-            return placeOf(name, names, floor.machines);
-        }
-
-        int sortNamed(long name) {
-            return placeOf(name, sortNames, sorts);
+            for (int m = 0; m < floor.machines; m++) {
+                if (names[m] == name) {
+                    return m;
+                }
+            }
+            return NONE;
         }
 
         boolean washTold(int from, int to) {
@@ -736,15 +735,6 @@ public final class BottleLine {
 
         int washMinutes(int from, int to) {
             return washTold(from, to) ? washes[from * SORTS + to] : USUAL_WASH;
-        }
-
-        private static int placeOf(long name, long[] list, int many) {
-            for (int k = 0; k < many; k++) {
-                if (list[k] == name) {
-                    return k;
-                }
-            }
-            return NONE;
         }
     }
 
@@ -846,16 +836,17 @@ public final class BottleLine {
                 stand[m]--;
                 return true;
             }
-            if (stops[m] == 0 || draw(64) >= stops[m]) {
+            if (stops[m] == 0 || draw() >= stops[m]) {
                 return false;
             }
             stand[m] = lasts[m] - 1;
             return true;
         }
 
-        private int draw(int n) {
+        /** A draw by 64: all that are drawn here are stops. */
+        private int draw() {
             drawn = (drawn * 3_373 + 12_289) % 65_536;
-            return drawn / 8 % n;
+            return drawn / 8 % 64;
         }
 
         private int moveBottles(int m) {
@@ -865,7 +856,9 @@ public final class BottleLine {
             if (m > 0) {
                 lying[m - 1] -= taken;
             }
-            lying[m] += m == machines - 1 ? 0 : taken;
+            if (m < machines - 1) {
+                lying[m] += taken;
+            }
             bottles[m] += taken;
             if (taken == speed[m]) {
                 return WORKS;
@@ -1070,6 +1063,7 @@ public final class BottleLine {
 
         private final Tape tape;
         final Plan fresh = new Plan();
+        private final long[] sortNames = new long[SORTS];
         private boolean headsTold = false;
         private boolean stopsTold = false;
         private boolean tableTold = false;
@@ -1202,10 +1196,10 @@ public final class BottleLine {
             if (!isName()) {
                 return tape.misplaced();
             }
-            if (fresh.sortNamed(tape.letters) != NONE) {
+            if (sortNamed(tape.letters) != NONE) {
                 return tape.wrong(3);
             }
-            fresh.sortNames[fresh.sorts] = tape.letters;
+            sortNames[fresh.sorts] = tape.letters;
             fresh.sorts++;
             tape.advance();
             return tape.takeSign();
@@ -1239,11 +1233,20 @@ public final class BottleLine {
                 tape.misplaced();
                 return NONE;
             }
-            int sort = fresh.sortNamed(tape.letters);
+            int sort = sortNamed(tape.letters);
             if (sort == NONE) {
                 tape.wrong(3);
             }
             return sort;
+        }
+
+        private int sortNamed(long name) {
+            for (int k = 0; k < fresh.sorts; k++) {
+                if (sortNames[k] == name) {
+                    return k;
+                }
+            }
+            return NONE;
         }
     }
 

@@ -325,6 +325,11 @@ public final class PromisesTest {
         lineFault("machine a speed 100;", 4, 16);
         lineFault("machine a speed 0000;", 4, 16);
         lineFault("machine a speed 5 heads 0;", 4, 24);
+        lineFault("machine a speed 5 heads 25;", 4, 24);
+        lineFault("machine a speed 5 stops 65 lasts 1;", 4, 24);
+        lineFault("sort a;sort b;wash a b 1000;", 4, 23);
+        lineFault("machine a speed 1;machine b speed 1;machine c speed 1;machine d speed 1;machine e speed 1;"
+            + "machine f speed 1;machine 1", 6, 108);
         lineFault("machine a speed 5 stops 5 lasts 0;", 4, 32);
         lineFault("machine a speed 5 stops 5 lasts 100;", 4, 32);
         lineFault("machine a speed 5;table 1000;", 4, 24);
@@ -636,6 +641,7 @@ public final class PromisesTest {
         no(1, x.holder(21, 4));
         no(1, x.holder(1, 0));
         no(1, x.holder(1, 601));
+        ok(x.tried(1, 3, 1), 3);
         promise = 24;
         no(6, x.gained());
         promise = 23;
@@ -645,6 +651,8 @@ public final class PromisesTest {
         no(1, x.holder(0, 4));
         ok(x.gained(), 4);
         promise = 23;
+        ok(x.holder(1, 1), 1);
+        ok(x.gained(), 1);
         ok(x.holder(20, 600), 1);
         ok(x.gained(), 600);
         ok(x.many(2), 10);
@@ -754,6 +762,7 @@ public final class PromisesTest {
         promise = 28;
         ok(x.unwaited(0, 5), 3);
         ok(x.unwaited(1, 200), 0);
+        ok(x.unwaited(0, 1), 3);
         no(1, x.unwaited(2, 5));
         no(1, x.unwaited(-1, 5));
         no(1, x.unwaited(0, 0));
@@ -1011,6 +1020,15 @@ public final class PromisesTest {
         ok(x.glass(0, 5), 14);
         row(0, 1, 9_999);
         ok(x.glass(0, 1), 7);
+        row(0, 1, 100, 9, -9);
+        ok(x.glass(0, 1), 7);
+        no(5, x.glass(0, 2));
+        x.tray(0, 3, 40);
+        for (int k = 0; k < 20; k++) {
+            x.write(0, 2 * k, 1);
+            x.write(0, 2 * k + 1, 100 * k);
+        }
+        ok(x.glass(0, 20), 137);
         row(0, 1, 10_000);
         no(5, x.glass(0, 1));
         row(0, 1, -1);
@@ -1054,6 +1072,8 @@ public final class PromisesTest {
         ordered(2);
         no(1, x.order(8, 2));
         no(1, x.order(15, 0));
+        no(1, x.order(9, 0));
+        no(1, x.order(8, 3));
         no(1, x.order(-1, 0));
         no(1, x.order(6, 0));
         no(1, x.order(7, 3));
@@ -1191,6 +1211,12 @@ public final class PromisesTest {
         no(5, x.lot(0, 2, 9));
         row(0, 0);
         ok(x.lot(0, 1, 0), 0);
+        x.tray(0, 2, 30);
+        for (int k = 0; k < 30; k++) {
+            x.write(0, k, 10 * k);
+        }
+        ok(x.lot(0, 30, 289), 28);
+        ok(x.lot(0, 30, 290), 29);
         promise = 42;
         no(1, x.torn(4, 1, 0));
         no(1, x.torn(0, 0, 0));
@@ -1224,6 +1250,8 @@ public final class PromisesTest {
         fraction(99, 1);
         ok(x.torn(0, 60, 50));
         fraction(5, 6);
+        no(6, x.torn(0, 60, 9_999));
+        no(1, x.torn(0, 60, 10_000));
     }
 
     private static void promise43and44() {
