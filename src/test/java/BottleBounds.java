@@ -205,6 +205,9 @@ final class BottleBounds extends Bounds {
             brief(29, 5, 1, 9, 5);
             // Two with a good one between: 1 to 19 and 21 to 39.
             brief(38, 5, 1, 5, 9, 5);
+            // Between two good ones nothing is thrown.
+            brief(10, 1, 5, 5);
+            brief(10, 5, 5, 1);
             // 0 to 9 and 11 to 20.
             brief(20, 1, 5, 1);
         });
@@ -241,6 +244,9 @@ final class BottleBounds extends Bounds {
             taken(3, "glass", 3, 2);
             row(3, 1, 2, 11, 0, 11);
             taken(7, "glass", 3, 2);
+            // 20 to 22, 8 to 14, 11 to 13, 21 to 23.
+            row(3, 1, 2, 21, 0, 11, 2, 12, 2, 22);
+            taken(11, "glass", 3, 4);
             rich();
             long[] twenty = new long[40];
             for (int k = 0; k < 20; k++) {

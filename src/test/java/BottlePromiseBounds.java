@@ -160,6 +160,17 @@ final class BottlePromiseBounds extends Bounds {
             glassNot(0, 10_000);
             glassNot(1L << 32, 0);
             glassNot(0, 1L << 32);
+            // The last of those asked for is looked at, and none behind it.
+            rich();
+            row(3, 1, 2, 5, 2, 6, 2, 10_000, 3, 0);
+            taken(4, "glass", 3, 2);
+            refused(5, "glass", 3, 3);
+            row(3, 1, 2, 5, 3, 6);
+            taken(3, "glass", 3, 1);
+            refused(5, "glass", 3, 2);
+            row(3, 1, 2, 5, 2, -1);
+            taken(3, "glass", 3, 1);
+            refused(5, "glass", 3, 2);
             // Without MACHINES there is no such one.
             line(0, "");
             row(3, 2, 0, 0);

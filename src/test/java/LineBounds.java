@@ -251,6 +251,12 @@ final class LineBounds extends Bounds {
             taken(1, "machine", 0, 3);
             taken(99, "machine", 1, 3);
             taken(0, "machine", 2, 3);
+            // Nothing is left of the LINE ahead.
+            line(3, "machine a speed 1;machine b speed 1;machine c speed 1;");
+            for (int m = 0; m < 3; m++) {
+                taken(0, "machine", m, 2);
+                taken(0, "machine", m, 3);
+            }
             lineFault(4, "machine a speed 1 stops 1 lasts ^0;");
             lineFault(4, "machine a speed 1 stops 1 lasts ^100;");
         });
@@ -378,14 +384,37 @@ final class LineBounds extends Bounds {
             lineFault(2, "machine ^abcdefghi speed 1;");
             lineFault(2, "machine a ^speeds 1;");
             lineFault(2, "machine a speed ^one;");
-            // The text's end is where it is cut, not where the tape ends.
-            lay("machine a speed 1;sort b;");
-            refused(1, "line", 41);
+            // Not the word, whichever of its letters is another one.
+            lineFault(2, "^nachine a speed 1;");
+            lineFault(2, "^machina a speed 1;");
+            lineFault(2, "machine a ^zpeed 1;");
+            lineFault(2, "machine a speed 1 ^zeads 1;");
+            lineFault(2, "machine a speed 1 ^ztops 1 lasts 1;");
+            lineFault(2, "machine a speed 1 stops 1 ^zasts 1;");
+            lineFault(2, "machine a speed 1;^fable 5;");
+            lineFault(2, "^port a;");
+            lineFault(2, "sort a;sort b;^mash a b 5;");
+            // The text's end is where it is cut, not where the tape ends: within a number, within a word.
+            cut("machine a speed 1", "2;", 17);
+            cut("machine a speed", "s 1;", 15);
+            cut("machine a", "b speed 1;", 9);
+            cut("machine a speed 1", ";", 17);
             fresh();
             lay("machine a speed 1;sort b;");
             taken(1, "line", 18);
             taken(0, "many", 1);
         });
+    }
+
+    /** The text is the first part of what lies on the tape, and wants more at its end. */
+    private static void cut(String text, String more, int place) {
+        rich();
+        lay(text + more);
+        givesNone("line", text.length());
+        status(9);
+        taken(2, "fault", 0);
+        taken(place, "fault", 1);
+        taken(3, "many", 0);
     }
 
     private static void faults3and4() {
@@ -401,7 +430,10 @@ final class LineBounds extends Bounds {
             lineFault(3, "sort b;wash ^a b 1;");
             lineFault(3, "machine b speed 1;sort a;wash a ^b 1;");
             line(2, "machine a speed 1;sort a;machine abcdefgi speed 1;sort abcdefgh;sort abcdefg;");
+            namesApart();
             // Names of the LINE ahead are gone.
+            fresh();
+            line(1, "machine a speed 1;sort a;sort abcdefgh;");
             line(1, "machine a speed 1;sort a;");
             lineFault(3, "sort b;wash b ^abcdefgh 1;");
         });
@@ -415,6 +447,21 @@ final class LineBounds extends Bounds {
             lineFault(4, "machine a speed 99 heads 24 stops 64 lasts 99;table ^1000;");
             lineFault(4, "sort a;sort b;wash a b 999;wash b a ^1000;");
         });
+    }
+
+    /** Any two names that are not the same letter for letter are two. */
+    private static void namesApart() {
+        String letters = "abcdefghijklmnopqrstuvwxyz";
+        for (String one : new String[] {"a", "p", "z", "aa", "ba", "az", "za", "zz", "aaaaaaaa", "zzzzzzzz"}) {
+            for (int k = 0; k < 27 * 27; k++) {
+                String ahead = k / 27 == 26 ? "" : letters.substring(k / 27, k / 27 + 1);
+                String other = ahead + (k % 27 == 26 ? one : letters.substring(k % 27, k % 27 + 1));
+                if (!other.equals(one) && other.length() < 9) {
+                    fresh();
+                    line(2, "machine " + one + " speed 1;machine " + other + " speed 2;");
+                }
+            }
+        }
     }
 
     private static void faults5and6() {

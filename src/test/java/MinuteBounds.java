@@ -4,6 +4,9 @@ final class MinuteBounds extends Bounds {
     /** Has full tables and a last machine that holds all back, after a while. */
     private static final String SLOW_END = "machine a speed 5;table 20;machine b speed 2;";
 
+    private static final String SIX_FAST = "machine a speed 9;machine b speed 9;machine c speed 9;machine d speed 9;"
+        + "machine e speed 9;";
+
     private MinuteBounds() {
     }
 
@@ -337,8 +340,16 @@ final class MinuteBounds extends Bounds {
             taken(9, "tried", 1, 4, 5);
             taken(0, "holder", 1, 5);
             taken(1, "gained");
+            // The first one, the last one, and the last of six.
+            line(2, "machine a speed 2;table 99;machine b speed 9;");
+            taken(0, "holder", 1, 10);
+            taken(9, "gained");
             line(2, SLOW_END);
             taken(1, "holder", 1, 10);
+            taken(9, "gained");
+            line(6, SIX_FAST + "machine f speed 2;");
+            taken(5, "holder", 1, 10);
+            taken(5, "gained");
         });
     }
 
@@ -439,6 +450,10 @@ final class MinuteBounds extends Bounds {
             line(2, "machine a speed 99;table 99;machine b speed 90;");
             taken(1, "waits", 0, 8, 2);
             taken(0, "waits", 0, 9, 2);
+            line(6, SIX_FAST + "machine f speed 9;");
+            taken(5, "waits", 5, 0, 9);
+            taken(5, "waits", 5, 20, 9);
+            taken(0, "waits", 0, 20, 9);
             taken(0, "waits", 0, 20, 2);
         });
     }

@@ -258,6 +258,21 @@ final class ShiftBounds extends Bounds {
             shiftFault(2, "^;");
             shiftFault(2, "run 1;^;");
             shiftFault(2, "loop 1;^; end;");
+            // Not the word, whichever of its letters is another one.
+            for (String step : new String[] {"^fun 1;", "^zpeed a 1;", "^malt a 1;", "^send a;", "^poop 1;end;", "^then a works;end;",
+                "loop 1;^and;", "when a ^forks;end;", "when a ^ztarved;end;", "when a ^glocked;end;", "when a ^ztopped;end;",
+                "^rum 1;", "when a ^stoppet;end;"}) {
+                shiftFault(2, step);
+            }
+            // The end is where the text is cut, within a number or a word.
+            lay("run 61;");
+            givesNone("shift", 5);
+            taken(2, "fault", 0);
+            taken(5, "fault", 1);
+            lay("loop 1;ending;");
+            givesNone("shift", 10);
+            taken(2, "fault", 0);
+            taken(10, "fault", 1);
             // The first along the text.
             shiftFault(4, "run ^0;end;!");
             shiftFault(2, "^end;run 0;");

@@ -5,12 +5,14 @@ import java.util.Set;
 
 /** What an object shows of its state by its face alone. Looking may change it, so each looks at an object of its own. */
 enum Witness {
-    TRAY_0, TRAY_1, TRAY_2, TRAY_3, FRACTION, FAULT, TAPE, LINE, COUNTS, DRAWS, SEED, SHIFT, SHIFT_ELSEWHERE, MARKS,
-    GAINED, UNITS, WORKED, HEADS, ORDERED, REPAIRS;
+    TRAY_0, TRAY_1, TRAY_2, TRAY_3, FRACTION, FAULT, TAPE, LINE, COUNTS, DRAWS, SEED, SHIFT, SHIFT_ELSEWHERE, NEXT_SHIFT,
+    MARKS, GAINED, UNITS, WORKED, HEADS, ORDERED, REPAIRS;
 
     /** Has machines of the names that the tests' shifts speak of. */
     private static final String ELSEWHERE =
         "machine a speed 7 stops 9 lasts 3;table 30;machine b speed 5;table 9;machine c speed 6;machine abcdefgh speed 9;";
+
+    private static final String ANOTHER_SHIFT = "run 1;loop 2;run 1;loop 2;when a works;run 1;end;end;end;speed a 3;";
 
     static Set<Witness> all() {
         return EnumSet.allOf(Witness.class);
@@ -44,11 +46,12 @@ enum Witness {
             }
             case SHIFT -> shift(x, seen);
             case SHIFT_ELSEWHERE -> {
-                x.call("line", 0);
-                for (long[] feed : Real.feeds(ELSEWHERE)) {
-                    x.call("feed", feed);
-                }
-                look(x, seen, "line", ELSEWHERE.length());
+                text(x, seen, "line", ELSEWHERE);
+                line(x, seen);
+                shift(x, seen);
+            }
+            case NEXT_SHIFT -> {
+                text(x, seen, "shift", ANOTHER_SHIFT);
                 shift(x, seen);
             }
             case MARKS -> marks(x, seen);
@@ -99,6 +102,15 @@ enum Witness {
         look(x, seen, "many", 0);
         look(x, seen, "many", 1);
         look(x, seen, "machine", 0, 0);
+    }
+
+    private static void text(Used x, List<Long> seen, String what, String text) {
+        x.call(what, 0);
+        for (long[] feed : Real.feeds(text)) {
+            x.call("feed", feed);
+        }
+        look(x, seen, what, text.length());
+        each(x, seen, "fault", 1);
     }
 
     private static void line(Used x, List<Long> seen) {
