@@ -11,6 +11,7 @@ final class LineBounds extends Bounds {
 
     static void all() {
         calls();
+        constants();
         trays();
         tokens();
         grammar();
@@ -41,6 +42,15 @@ final class LineBounds extends Bounds {
             // What comes later is free, but it must not throw.
             x.run(600);
             x.status();
+        });
+    }
+
+    private static void constants() {
+        sentence("The constants", "`NONE = -1`: None.", () -> {
+            if (BottleLine.NONE != -1) {
+                report("NONE is " + BottleLine.NONE);
+            }
+            refused(1, "many", 4);
         });
     }
 
@@ -165,6 +175,34 @@ final class LineBounds extends Bounds {
             line(0, " \n ");
             line(0, "sort a;");
             line(1, "machine a speed 1;");
+        });
+        sentence(SECTION, "PART: machine NAME speed NUMBER {OPTION} ; or table NUMBER ; or sort NAME ; or wash NAME NAME NUMBER ;", () -> {
+            line(1, "machine a speed 1;table 2;sort a;sort b;wash a b 3;");
+            taken(2, "many", 1);
+            taken(3, "wash", 0, 1);
+            rich();
+            // A token too few, and one too many, in each place.
+            lineFault(2, "machine ^speed 1;");
+            lineFault(2, "machine a ^1;");
+            lineFault(2, "machine a speed^;");
+            lineFault(2, "machine a speed 1 ^machine b speed 1;");
+            lineFault(2, "machine ^machine a speed 1;");
+            lineFault(2, "machine a ^b speed 1;");
+            lineFault(2, "machine a speed ^speed 1;");
+            lineFault(2, "machine a speed 1 ^1;");
+            lineFault(2, "machine a speed 1;table^;");
+            lineFault(2, "machine a speed 1;table ^a 5;");
+            lineFault(2, "machine a speed 1;table 5 ^5;");
+            lineFault(2, "sort^;");
+            lineFault(2, "sort a ^b;");
+            lineFault(2, "sort a ^5;");
+            lineFault(2, "sort ^5;");
+            lineFault(2, "sort a;sort b;wash^;");
+            lineFault(2, "sort a;sort b;wash a^;");
+            lineFault(2, "sort a;sort b;wash a ^5;");
+            lineFault(2, "sort a;sort b;wash a b^;");
+            lineFault(2, "sort a;sort b;wash a b ^a 5;");
+            lineFault(2, "sort a;sort b;wash a b 5 ^5;");
         });
         sentence(SECTION, "OPTION: heads NUMBER, or stops NUMBER lasts NUMBER. ({ } any number of times.)", () -> {
             line(4, "machine a speed 1;machine b speed 1 heads 2;machine c speed 1 stops 3 lasts 4;"

@@ -58,11 +58,12 @@ final class Sentences {
         }
     }
 
-    /** By name: the 512 calls, ==== 1. to ==== 5., Promise 1 to Promise 44; blanks and lines made one blank. */
+    /** By name: the 512 calls, the constants, ==== 1. to ==== 5., Promise 1 to Promise 44; blanks and lines made one blank. */
     private static Map<String, String> sections(String document) {
         Map<String, String> all = new LinkedHashMap<>();
         String terms = between(document, "## Terms\n", "The constants:");
         all.put("What it is", between(document, "==== 1.\n", "## The public face"));
+        all.put("The constants", between(document, "The constants:", "Ahead of the calls"));
         String[] parts = terms.split("==== [2-5]\\.");
         for (int k = 0; k < parts.length; k++) {
             all.put("==== " + (k + 1) + ".", plain(parts[k].replace("```text", " ").replace("```", " ")));

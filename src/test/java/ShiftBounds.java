@@ -60,6 +60,37 @@ final class ShiftBounds extends Bounds {
             shiftFault(1, "run ^00001;");
             shiftFault(1, "^Run 1;");
         });
+        sentence(SECTION, "STEP: run NUMBER ; or speed NAME NUMBER ; or halt NAME NUMBER ; or mend NAME ; or loop NUMBER ; {STEP} "
+            + "end ; or when NAME STATE ; {STEP} end ; STATE: works, or starved, or blocked, or stopped.", () -> {
+            shift(9, "run 1;speed a 1;halt a 1;mend a;loop 1;end;when a works;end;when a starved;end;when a blocked;end;"
+                + "when a stopped;end;");
+            rich();
+            // A token too few, and one too many, in each place.
+            shiftFault(2, "run 1 ^1;");
+            shiftFault(2, "run ^run 1;");
+            shiftFault(2, "speed ^1;");
+            shiftFault(2, "speed a^;");
+            shiftFault(2, "speed a ^b 1;");
+            shiftFault(2, "speed a 1 ^1;");
+            shiftFault(2, "halt ^1;");
+            shiftFault(2, "halt a^;");
+            shiftFault(2, "halt a 1 ^1;");
+            shiftFault(2, "mend^;");
+            shiftFault(2, "mend a ^1;");
+            shiftFault(2, "mend a ^b;");
+            shiftFault(2, "loop^;end;");
+            shiftFault(2, "loop 1 ^run 1;end;");
+            shiftFault(2, "loop 1 ^end;");
+            shiftFault(2, "loop ^a 1;end;");
+            shiftFault(2, "loop 1;run 1 ^end;");
+            shiftFault(2, "loop 1;end ^1;");
+            shiftFault(2, "loop 1;end ^end;");
+            shiftFault(2, "when ^works;end;");
+            shiftFault(2, "when a^;end;");
+            shiftFault(2, "when a works ^starved;end;");
+            shiftFault(2, "when a ^end;");
+            shiftFault(2, "when a ^b;end;");
+        });
         sentence(SECTION, "SHIFT: {STEP}.", () -> {
             shift(0, "");
             shift(0, "  \n");
